@@ -155,6 +155,9 @@ public final class TownTest {
         CHECK.due("close: streets()", x.streets(), 3);
         CHECK.due("close: those behind move up", x.end(1, false), 2);
         CHECK.due("close: those behind move up", x.end(2, false), 3);
+        CHECK.due("close: those behind move up", x.end(1, true), 0);
+        CHECK.due("close: those behind move up", x.end(2, true), 3);
+        CHECK.due("close: those ahead stay", x.end(0, true), 1);
         Allstreets w = new Allstreets();
         w.words(2, 1);
         CHECK.act(w, "close in words", () -> w.close(1), 1);
@@ -264,6 +267,8 @@ public final class TownTest {
         CHECK.due("ways(0, 1)", x.ways(0, 1), 3);
         CHECK.due("ways(0, 2)", x.ways(0, 2), 2);
         CHECK.due("ways(9, 0)", x.ways(9, 0), 0);
+        CHECK.due("ways(1, 2) asked first", Face.townOf(0, 1, 2, 1).ways(1, 2), 2);
+        CHECK.due("ways(0, 1) asked first", Face.townOf(0, 1, 0, 2).ways(0, 1), 2);
         CHECK.throwsIndex(x, "ways(10, 0)", () -> x.ways(10, 0));
         CHECK.throwsIndex(x, "ways(-1, 0)", () -> x.ways(-1, 0));
         CHECK.throwsArgument(x, "ways(0, 3)", () -> x.ways(0, 3));
