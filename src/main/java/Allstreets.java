@@ -1039,7 +1039,7 @@ public final class Allstreets {
         /** Needs a START to begin at. Tells how many steps came. */
         int fillUp(boolean isLeast) {
             int came = goOn(count, isLeast);
-            for (int place = 0; place <= count; place++) {
+            for (int place = 0; place <= count && place <= MOST_STREETS; place++) {
                 came += goOn(place, isLeast);
             }
             return came;
@@ -1053,8 +1053,9 @@ public final class Allstreets {
         }
 
         void takeIn(Walk round, int at) {
-            for (int i = 0; i < round.count; i++) {
-                putIn(at + i, round.steps[i]);
+            int many = round.count;
+            for (int i = 0; i < many; i++) {
+                putIn(at + i, round.stepOf(i));
             }
             round.count = 0;
         }
@@ -1097,7 +1098,8 @@ public final class Allstreets {
             if (count == 0) {
                 return;
             }
-            for (int times = 0; times < by % count; times++) {
+            int times = by % count;
+            for (int i = 0; i < times; i++) {
                 int step = stepOf(0);
                 takeOutFirst();
                 putIn(count, step);
@@ -1105,8 +1107,9 @@ public final class Allstreets {
         }
 
         void takeAllOf(Walk pattern) {
+            int many = pattern.count;
             restart(pattern.start);
-            for (int place = 0; place < pattern.count; place++) {
+            for (int place = 0; place < many; place++) {
                 putIn(place, pattern.steps[place]);
             }
         }

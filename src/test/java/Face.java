@@ -1,3 +1,6 @@
+import java.util.ArrayList;
+import java.util.List;
+
 /** What can be read of an object by its other methods. */
 final class Face {
     private Face() {
@@ -6,40 +9,34 @@ final class Face {
     /** The checksum as promise 49 tells it, from the answers of the others. */
     static long digestOf(Allstreets x) {
         long d = 7692;
-        d = d * 31 + x.streets();
+        for (int value : valuesOf(x)) {
+            d = d * 31 + value;
+        }
+        return d;
+    }
+
+    /** What the checksum is made of, in its order. */
+    static List<Integer> valuesOf(Allstreets x) {
+        List<Integer> all = new ArrayList<>();
+        all.add(x.streets());
         for (int street = 0; street < x.streets(); street++) {
-            d = d * 31 + x.end(street, false);
-            d = d * 31 + x.end(street, true);
+            all.addAll(List.of(x.end(street, false), x.end(street, true)));
         }
         for (int corner = 0; corner < 10; corner++) {
-            d = d * 31 + x.ways(corner, 0);
-            d = d * 31 + x.ways(corner, 1);
-            d = d * 31 + (x.isStart(corner) ? 1 : 0);
+            all.addAll(List.of(x.ways(corner, 0), x.ways(corner, 1), x.isStart(corner) ? 1 : 0));
         }
-        d = d * 31 + x.odd();
-        d = d * 31 + (x.hangs() ? 1 : 0);
-        d = d * 31 + x.kind();
-        for (int what = 0; what <= 2; what++) {
-            d = d * 31 + x.rule(what);
-        }
+        all.addAll(List.of(x.odd(), x.hangs() ? 1 : 0, x.kind(), x.rule(0), x.rule(1), x.rule(2)));
         for (int walk = 0; walk < 3; walk++) {
-            d = d * 31 + x.length(walk);
-            d = d * 31 + x.cornerAt(walk, 0);
-            d = d * 31 + x.cornerAt(walk, x.length(walk));
+            all.addAll(List.of(x.length(walk), x.cornerAt(walk, 0), x.cornerAt(walk, x.length(walk))));
             for (int at = 0; at < x.length(walk); at++) {
-                d = d * 31 + x.stepAt(walk, at);
+                all.add(x.stepAt(walk, at));
             }
-            d = d * 31 + (x.is(walk, true) ? 1 : 0);
-            d = d * 31 + x.turnOf(walk, walk == 2 ? 0 : walk + 1);
+            all.addAll(List.of(x.is(walk, true) ? 1 : 0, x.turnOf(walk, walk == 2 ? 0 : walk + 1)));
         }
-        d = d * 31 + x.cursorPlace(true);
-        d = d * 31 + x.cursorPlace(false);
-        d = d * 31 + (x.cursorCan(true) ? 1 : 0);
-        d = d * 31 + (x.cursorCan(false) ? 1 : 0);
-        for (int what = 0; what <= 2; what++) {
-            d = d * 31 + x.house(what);
-        }
-        return d * 31 + (x.isSound() ? 1 : 0);
+        all.addAll(List.of(x.cursorPlace(true), x.cursorPlace(false)));
+        all.addAll(List.of(x.cursorCan(true) ? 1 : 0, x.cursorCan(false) ? 1 : 0));
+        all.addAll(List.of(x.house(0), x.house(1), x.house(2), x.isSound() ? 1 : 0));
+        return all;
     }
 
     /** All but house(). */

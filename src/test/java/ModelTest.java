@@ -123,64 +123,13 @@ public final class ModelTest {
 
     private static Object answer(Allstreets x, String name, int[] a) {
         try {
-            Object answer = asked(x, name, a);
+            Object answer = Calls.call(x, name, a);
             if (answer instanceof Boolean isSo) {
                 return isSo ? 1L : 0L;
             }
             return answer instanceof Integer number ? (Object) number.longValue() : answer;
         } catch (RuntimeException e) {
             return e.getClass().getSimpleName();
-        }
-    }
-
-    private static Object asked(Allstreets x, String name, int[] a) {
-        switch (name) {
-            case "lay": return x.lay(a[0], a[1]);
-            case "layRing": return x.layRing(a[0], a[1]);
-            case "words": return x.words(a[0], a[1]);
-            case "close": return x.close(a[0]);
-            case "clear": return x.clear();
-            case "oneWay": return x.oneWay(a[0] == 1);
-            case "turnTown": return x.turnTown();
-            case "streets": return x.streets();
-            case "end": return x.end(a[0], a[1] == 1);
-            case "ways": return x.ways(a[0], a[1]);
-            case "odd": return x.odd();
-            case "hangs": return x.hangs();
-            case "kind": return x.kind();
-            case "isStart": return x.isStart(a[0]);
-            case "rule": return x.rule(a[0]);
-            case "begin": return x.begin(a[0], a[1]);
-            case "step": return x.step(a[0], a[1], a[2] == 1);
-            case "back": return x.back(a[0], a[1] == 1);
-            case "on": return x.on(a[0], a[1] == 1);
-            case "complete": return x.complete(a[0], a[1] == 1);
-            case "splice": return x.splice(a[0], a[1], a[2]);
-            case "join": return x.join(a[0], a[1]);
-            case "cut": return x.cut(a[0], a[1], a[2], a[3]);
-            case "turnRound": return x.turnRound(a[0]);
-            case "rotate": return x.rotate(a[0], a[1]);
-            case "first": return x.first(a[0], a[1], a[2] == 1);
-            case "next": return x.next(a[0], a[1] == 1);
-            case "copy": return x.copy(a[0], a[1]);
-            case "length": return x.length(a[0]);
-            case "cornerAt": return x.cornerAt(a[0], a[1]);
-            case "stepAt": return x.stepAt(a[0], a[1]);
-            case "find": return x.find(a[0], a[1]);
-            case "is": return x.is(a[0], a[1] == 1);
-            case "same": return x.same(a[0], a[1]);
-            case "turnOf": return x.turnOf(a[0], a[1]);
-            case "text": return x.text(a[0], a[1]);
-            case "wordAt": return x.wordAt(a[0], a[1], a[2]);
-            case "cursor": return x.cursor(a[0], a[1]);
-            case "cursorGo": return x.cursorGo(a[0] == 1);
-            case "cursorSet": return x.cursorSet(a[0]);
-            case "cursorAdd": return x.cursorAdd(a[0]);
-            case "cursorRemove": return x.cursorRemove();
-            case "cursorCan": return x.cursorCan(a[0] == 1);
-            case "cursorPlace": return x.cursorPlace(a[0] == 1);
-            case "house": return x.house(a[0]);
-            default: return x.knock();
         }
     }
 }
