@@ -30,6 +30,9 @@ public final class WalkEdgesTest {
         firstEdges();
         nextEdges();
         copy();
+        wholeWalk("oneWay false");
+        wholeWalk("oneWay true");
+        wholeWalkOfAllLoops();
         EDGES.end();
     }
 
@@ -341,5 +344,53 @@ public final class WalkEdgesTest {
         for (int walk = 0; walk <= 2; walk++) {
             EDGES.due(ROUND, "copy " + walk + " " + walk, -9);
         }
+    }
+
+    // Each street is in it: none can be walked, spliced in or closed, but all can go.
+    private static void wholeWalk(String rule) {
+        String run = "lay 0 1; lay 1 1; lay 1 2; lay 2 0; " + rule + "; on 0 true; step 1 0 false; step 1 1 false; "
+            + "begin 2 1; step 2 1 false";
+        EDGES.due(run, "is 0 true", true);
+        EDGES.due(run, "is 0 false", true);
+        for (int street = 0; street <= 3; street++) {
+            EDGES.due(run, "step 0 " + street + " false", -9);
+            EDGES.due(run, "step 0 " + street + " true", -9);
+            EDGES.due(run, "close " + street, -9);
+            EDGES.due(run, "find 0 " + street, street);
+            EDGES.due(run + "; cursor 0 0", "cursorAdd " + street, -9);
+            EDGES.due(run + "; cursor 0 1", "cursorAdd " + street, -9);
+            EDGES.due(run + "; cursor 0 4", "cursorAdd " + street, -9);
+        }
+        EDGES.due(run, "on 0 true", 0);
+        EDGES.due(run, "on 0 false", 0);
+        EDGES.due(run, "complete 0 true", 0);
+        EDGES.due(run, "complete 0 false", 0);
+        EDGES.due(run, "splice 0 2 1", -9);
+        EDGES.due(run, "join 0 2", -9);
+        EDGES.due(run, "cut 0 0 4 1", 4, "is 0 true", false, "is 1 true", true, "text 0 0", "0");
+        EDGES.due(run, "cut 0 1 2 1", 1, "is 0 true", false, "text 0 1", "0-2-3");
+        EDGES.due(run, "rotate 0 4", 0, "is 0 true", true, "text 0 1", "0-1-2-3");
+        EDGES.due(run, "copy 0 1", 4, "is 1 true", true, "is 0 true", true);
+        EDGES.due(run, "back 0 true", 0, "is 0 true", false, "complete 0 true", 1, "text 0 1", "1-2-3-0", "is 0 true", true);
+        EDGES.due(run, "back 0 false", 6, "is 0 true", false, "complete 0 true", 1, "text 0 1", "0-1-2-3");
+        EDGES.due(run, "lay 0 0", 4, "is 0 true", false, "on 0 true", 1, "is 0 true", true, "text 0 1", "0-1-2-3-4");
+        EDGES.due(run, "turnTown", 4, "is 0 true", true, "text 0 1", "3-2-1-0");
+        EDGES.due(run, "next 0 false", -9);
+        EDGES.due(run, "begin 0 0", 4, "is 0 true", false);
+    }
+
+    private static void wholeWalkOfAllLoops() {
+        String run = "layRing 1 0; ".repeat(30) + "on 0 true";
+        EDGES.due(run, "splice 0 1 30", -9);
+        EDGES.due(run, "splice 0 1 31", "throws.IndexOutOfBoundsException");
+        EDGES.due(run, "splice 1 0 0", 30, "length 0", 0, "length 1", 30);
+        EDGES.due(run, "join 1 0", 0, "length 0", 0, "length 1", 30);
+        EDGES.due(run, "cut 0 0 29 1", 29, "text 0 1", "29", "length 1", 29);
+        EDGES.due(run + "; cut 0 0 29 1", "splice 0 1 0", 30, "stepAt 0 29", 58, "stepAt 0 0", 0);
+        EDGES.due(run + "; cut 0 0 29 1", "splice 0 1 1", 30, "stepAt 0 0", 58, "stepAt 0 29", 56);
+        EDGES.due(run + "; cut 0 0 29 1", "splice 1 0 29", 30, "stepAt 1 29", 58);
+        EDGES.due(run + "; cut 0 0 29 1", "join 0 1", 0, "stepAt 0 0", 0, "stepAt 0 29", 58);
+        EDGES.due(run, "rotate 0 29", 0, "stepAt 0 0", 58, "stepAt 0 1", 0);
+        EDGES.due(run, "turnRound 0", 0, "stepAt 0 0", 58, "stepAt 0 29", 0);
     }
 }
