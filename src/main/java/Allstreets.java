@@ -490,7 +490,7 @@ public final class Allstreets {
     }
 
     private void checkCorner(int corner) {
-        if (corner < 0 || corner >= CORNERS) {
+        if (!Town.isCorner(corner)) {
             throw new IndexOutOfBoundsException("no such corner");
         }
     }
@@ -583,7 +583,10 @@ public final class Allstreets {
         return power;
     }
 
-    /** The streets. A set of streets is an int with the bit of each street's number. */
+    /**
+     * The streets. A set of streets is an int with the bit of each street's number. Each FROM and TO in the rows is
+     * a corner, as addStreet() lets no other in: so they need no test where they are an index.
+     */
     private static final class Town {
         private final int[] froms;
         private final int[] tos;
@@ -600,6 +603,10 @@ public final class Allstreets {
             tos = new int[MOST_STREETS];
             outs = new int[CORNERS];
             ins = new int[CORNERS];
+        }
+
+        static boolean isCorner(int number) {
+            return number >= 0 && number < CORNERS;
         }
 
         int size() {
@@ -635,7 +642,7 @@ public final class Allstreets {
         }
 
         void addStreet(int from, int to) {
-            if (count >= MOST_STREETS) {
+            if (count >= MOST_STREETS || !isCorner(from) || !isCorner(to)) {
                 return;
             }
             froms[count] = from;
@@ -741,12 +748,12 @@ public final class Allstreets {
 
         int outOf(int corner) {
             countWays(allStreets());
-            return corner >= 0 && corner < CORNERS ? outs[corner] : 0;
+            return isCorner(corner) ? outs[corner] : 0;
         }
 
         int inOf(int corner) {
             countWays(allStreets());
-            return corner >= 0 && corner < CORNERS ? ins[corner] : 0;
+            return isCorner(corner) ? ins[corner] : 0;
         }
 
         int oddCount(int among) {
@@ -781,7 +788,7 @@ public final class Allstreets {
             if (among == 0) {
                 return true;
             }
-            if (corner < 0 || corner >= CORNERS || !hangTogether(among)) {
+            if (!isCorner(corner) || !hangTogether(among)) {
                 return false;
             }
             int odd = oddCount(among);
@@ -863,7 +870,7 @@ public final class Allstreets {
         }
 
         private boolean isOddAsCounted(int corner) {
-            if (corner < 0 || corner >= CORNERS) {
+            if (!isCorner(corner)) {
                 return false;
             }
             return oneWayOnly ? outs[corner] != ins[corner] : (outs[corner] + ins[corner]) % 2 != 0;

@@ -64,7 +64,8 @@ final class Edges {
     // The TOLD step shows in no answer but by the cursor's own acts: so these are tried, which uses the object up.
     private static String allOf(Allstreets x) {
         StringBuilder all = new StringBuilder(Face.stateOf(x));
-        for (int street = 0; street < x.streets(); street++) {
+        int streets = x.streets();
+        for (int street = 0; street < streets; street++) {
             all.append(' ').append(x.cursorSet(street));
         }
         all.append(" removed ").append(x.cursorRemove());

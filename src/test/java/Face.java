@@ -1,7 +1,10 @@
 import java.util.ArrayList;
 import java.util.List;
 
-/** What can be read of an object by its other methods. */
+/**
+ * What can be read of an object by its other methods, with as few calls as it takes: the document promises the
+ * answers of an object's first 512 calls alone, and each of these counts, too.
+ */
 final class Face {
     private Face() {
     }
@@ -18,8 +21,9 @@ final class Face {
     /** What the checksum is made of, in its order. */
     static List<Integer> valuesOf(Allstreets x) {
         List<Integer> all = new ArrayList<>();
-        all.add(x.streets());
-        for (int street = 0; street < x.streets(); street++) {
+        int streets = x.streets();
+        all.add(streets);
+        for (int street = 0; street < streets; street++) {
             all.addAll(List.of(x.end(street, false), x.end(street, true)));
         }
         for (int corner = 0; corner < 10; corner++) {
@@ -27,8 +31,9 @@ final class Face {
         }
         all.addAll(List.of(x.odd(), x.hangs() ? 1 : 0, x.kind(), x.rule(0), x.rule(1), x.rule(2)));
         for (int walk = 0; walk < 3; walk++) {
-            all.addAll(List.of(x.length(walk), x.cornerAt(walk, 0), x.cornerAt(walk, x.length(walk))));
-            for (int at = 0; at < x.length(walk); at++) {
+            int length = x.length(walk);
+            all.addAll(List.of(length, x.cornerAt(walk, 0), x.cornerAt(walk, length)));
+            for (int at = 0; at < length; at++) {
                 all.add(x.stepAt(walk, at));
             }
             all.addAll(List.of(x.is(walk, true) ? 1 : 0, x.turnOf(walk, walk == 2 ? 0 : walk + 1)));
@@ -42,7 +47,8 @@ final class Face {
     /** All but house(). */
     static String stateOf(Allstreets x) {
         StringBuilder all = new StringBuilder();
-        for (int street = 0; street < x.streets(); street++) {
+        int streets = x.streets();
+        for (int street = 0; street < streets; street++) {
             all.append(x.end(street, false)).append('>').append(x.end(street, true)).append(' ');
         }
         for (int what = 0; what <= 2; what++) {
@@ -58,7 +64,8 @@ final class Face {
     /** The numbers of a walk's steps, as text() would join them. */
     static String stepsOf(Allstreets x, int walk) {
         StringBuilder all = new StringBuilder();
-        for (int at = 0; at < x.length(walk); at++) {
+        int length = x.length(walk);
+        for (int at = 0; at < length; at++) {
             all.append(at == 0 ? "" : "-").append(x.stepAt(walk, at));
         }
         return all.toString();

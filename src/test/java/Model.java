@@ -96,6 +96,38 @@ final class Model {
         return answer;
     }
 
+    int lengthOf(int walk) {
+        return walks[walk].steps.size();
+    }
+
+    /** The checksum, for which an object is always sound. */
+    long digest() {
+        List<Object> all = new ArrayList<>(List.of((long) streets.size()));
+        for (Street street : streets) {
+            all.addAll(List.of((long) street.from, (long) street.to));
+        }
+        for (int corner = 0; corner < 10; corner++) {
+            all.addAll(List.of(ways(streets, corner, 0), ways(streets, corner, 1), truth(isStart(streets, corner))));
+        }
+        all.addAll(List.of((long) odd(streets).size(), truth(hangs(streets)), kind()));
+        all.addAll(List.of((long) signs, (long) wordLength, truth(oneWay)));
+        for (int i = 0; i < 3; i++) {
+            Walk walk = walks[i];
+            all.addAll(List.of((long) walk.steps.size(), (long) walk.begin, (long) walk.end()));
+            walk.steps.forEach(step -> all.add(number(step)));
+            all.addAll(List.of(truth(walk.steps.size() == streets.size()), turnOf(walk, walks[(i + 1) % 3])));
+        }
+        for (String name : List.of("cursorPlace", "cursorCan")) {
+            all.addAll(List.of(doCall(name, new int[] {1}), doCall(name, new int[] {0})));
+        }
+        all.addAll(List.of(acts, refusals, knocks, 1L));
+        long d = 7692;
+        for (Object value : all) {
+            d = d * 31 + (Long) value;
+        }
+        return d;
+    }
+
     static boolean isAct(String name) {
         return List.of("lay", "layRing", "words", "close", "clear", "oneWay", "turnTown", "begin", "step", "back", "on",
             "complete", "splice", "join", "cut", "turnRound", "rotate", "first", "next", "copy", "cursor", "cursorGo",
@@ -403,8 +435,12 @@ final class Model {
     }
 
     private static Object ways(List<Street> among, int corner, int what) {
-        return among.stream().mapToLong(s -> (what != 2 && s.from == corner ? 1 : 0)
-            + (what != 1 && s.to == corner ? 1 : 0)).sum();
+        long many = 0;
+        for (Street street : among) {
+            many += what != 2 && street.from == corner ? 1 : 0;
+            many += what != 1 && street.to == corner ? 1 : 0;
+        }
+        return many;
     }
 
     private static long waysOf(List<Street> among, int corner, int what) {
@@ -429,11 +465,12 @@ final class Model {
         }
         Set<Street> reached = new HashSet<>();
         List<Street> toLookAt = new ArrayList<>(List.of(among.get(0)));
+        reached.add(among.get(0));
         while (!toLookAt.isEmpty()) {
-            Street one = toLookAt.remove(0);
-            if (reached.add(one)) {
-                for (Street other : among) {
-                    if (other.from == one.from || other.from == one.to || other.to == one.from || other.to == one.to) {
+            Street one = toLookAt.remove(toLookAt.size() - 1);
+            for (Street other : among) {
+                if (other.from == one.from || other.from == one.to || other.to == one.from || other.to == one.to) {
+                    if (reached.add(other)) {
                         toLookAt.add(other);
                     }
                 }

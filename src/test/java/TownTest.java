@@ -90,28 +90,34 @@ public final class TownTest {
     }
 
     private static void words() {
-        Allstreets x = new Allstreets();
         int[][] let = {{2, 1, 2}, {2, 2, 4}, {2, 3, 8}, {2, 4, 16}, {3, 1, 3}, {3, 2, 9}, {3, 3, 27},
             {4, 1, 4}, {4, 2, 16}, {5, 1, 5}, {5, 2, 25}};
         for (int[] town : let) {
-            CHECK.act(x, "words(" + town[0] + ", " + town[1] + ")", () -> x.words(town[0], town[1]), town[2]);
-            CHECK.due("words: rule(0)", x.rule(0), town[0]);
-            CHECK.due("words: rule(1)", x.rule(1), town[1]);
-            CHECK.due("words: rule(2)", x.rule(2), 1);
-            CHECK.due("words: streets()", x.streets(), town[2]);
-            for (int word = 0; word < town[2]; word++) {
-                String digits = digitsOf(word, town[0], town[1]);
-                CHECK.due("words: from", x.end(word, false), number(digits.substring(0, town[1] - 1), town[0]));
-                CHECK.due("words: to", x.end(word, true), number(digits.substring(1), town[0]));
-            }
+            wordsAreLaid(new Allstreets(), town[0], town[1], town[2]);
+            wordsAreLaid(Calls.after("words 5 2"), town[0], town[1], town[2]);
         }
         int[][] tooMany = {{3, 4}, {4, 3}, {4, 4}, {5, 3}, {5, 4}};
         for (int[] town : tooMany) {
+            Allstreets x = Calls.after("words 5 2");
             CHECK.refused(x, "words(" + town[0] + ", " + town[1] + ")", () -> x.words(town[0], town[1]));
         }
+        Allstreets x = Calls.after("words 2 3");
         int[][] wrong = {{1, 2}, {6, 1}, {-1, 2}, {2, 0}, {2, 5}, {2, -1}, {6, 9}};
         for (int[] town : wrong) {
             CHECK.throwsArgument(x, "words(" + town[0] + ", " + town[1] + ")", () -> x.words(town[0], town[1]));
+        }
+    }
+
+    private static void wordsAreLaid(Allstreets x, int signs, int length, int many) {
+        CHECK.act(x, "words(" + signs + ", " + length + ")", () -> x.words(signs, length), many);
+        CHECK.due("words: rule(0)", x.rule(0), signs);
+        CHECK.due("words: rule(1)", x.rule(1), length);
+        CHECK.due("words: rule(2)", x.rule(2), 1);
+        CHECK.due("words: streets()", x.streets(), many);
+        for (int word = 0; word < many; word++) {
+            String digits = digitsOf(word, signs, length);
+            CHECK.due("words: from", x.end(word, false), number(digits.substring(0, length - 1), signs));
+            CHECK.due("words: to", x.end(word, true), number(digits.substring(1), signs));
         }
     }
 

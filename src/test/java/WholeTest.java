@@ -81,45 +81,33 @@ public final class WholeTest {
     }
 
     private static void digestChanges() {
-        Allstreets x = Face.townOf(0, 1, 1, 2, 2, 0, 3, 0);
-        Face.walk(x, 0, 0, 0, 1, 2);
-        digestIsDue(x);
-        x.copy(0, 1);
-        x.rotate(1, 1);
-        digestIsDue(x);
-        x.copy(1, 2);
-        x.rotate(2, 1);
-        digestIsDue(x);
-        x.first(1, 3, true);
-        digestIsDue(x);
-        x.cursor(1, 2);
-        digestIsDue(x);
-        x.cursorGo(true);
-        x.knock();
-        digestIsDue(x);
-        x.back(1, true);
-        x.cursorGo(true);
-        digestIsDue(x);
-        x.words(3, 2);
-        digestIsDue(x);
-        x.first(2, 1, false);
-        x.cursor(2, 9);
-        digestIsDue(x);
+        digestIsDueAfterEach("lay 0 1; lay 1 2; lay 2 0; lay 3 0; step 0 0 false; step 0 1 false; step 0 2 false; copy 0 1; "
+            + "rotate 1 1; copy 1 2; rotate 2 1; first 1 3 true; cursor 1 2; cursorGo true; knock; back 1 true; "
+            + "cursorGo true; words 3 2; first 2 1 false; cursor 2 9");
     }
 
     private static void digestOfTowns() {
-        Allstreets x = new Allstreets();
+        StringBuilder run = new StringBuilder();
         for (int street = 0; street < 30; street++) {
-            x.lay(street * 3 % 10, (street * 5 + 1) % 10);
-            x.on(street % 3, street % 2 == 0);
-            x.cursor(street % 3, x.length(street % 3));
-            digestIsDue(x);
+            int walk = street % 3;
+            run.append("lay ").append(street * 3 % 10).append(' ').append((street * 5 + 1) % 10).append("; ");
+            run.append("on ").append(walk).append(street % 2 == 0 ? " true; " : " false; ");
+            run.append("cursor ").append(walk).append(street < 15 ? " 0; " : " 1; ");
         }
+        digestIsDueAfterEach(run.toString());
     }
 
-    private static void digestIsDue(Allstreets x) {
-        long first = x.digest();
-        CHECK.due("digest()", first, Face.digestOf(x));
-        CHECK.due("digest() again", x.digest(), first);
+    // On a new object each time: to ask for all that the checksum is made of takes many calls.
+    private static void digestIsDueAfterEach(String run) {
+        String[] calls = run.split("; ");
+        for (int many = 1; many <= calls.length; many++) {
+            Allstreets x = new Allstreets();
+            for (int i = 0; i < many; i++) {
+                Calls.answer(x, calls[i]);
+            }
+            long first = x.digest();
+            CHECK.due(calls[many - 1] + ", then digest()", first, Face.digestOf(x));
+            CHECK.due(calls[many - 1] + ", then digest() again", x.digest(), first);
+        }
     }
 }
